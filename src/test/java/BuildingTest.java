@@ -257,11 +257,11 @@ public final class BuildingTest {
         x.argument(1);
         x.argument(0);
         x.two(1);
-        x.argument(0);
+        x.constant(5);
         x.two(0);
         check.due("6: five terms", x.define(2), 5);
-        check.due("6: nothing of the old body is left", x.run(2, 10, 0), 0);
-        check.due("6: nothing of the old body is left", x.run(2, 10, 7), 7);
+        check.due("6: nothing of the old body is left", x.run(2, 10, 0), -5);
+        check.due("6: nothing of the old body is left", x.run(2, 10, 7), 2);
         x.argument(1);
         check.due("6: a shorter body", x.define(2), 1);
         check.due("6: a shorter body's value", x.run(2, 10, 8), 8);

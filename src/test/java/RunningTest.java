@@ -140,7 +140,7 @@ public final class RunningTest {
     /** Calls count over the whole run, not by how deep they stand. */
     private static void tiredAmongBranchingCalls() {
         FixedArguments x = new FixedArguments();
-        // f(a) = a < 1 ? 1 : f(a - 1) + f(a - 1): 2^(a+1) - 1 calls.
+        // f0 = first ? f0(first - 1, second) + f0(first - 1, second) : 1, in 2^(first + 1) - 1 calls.
         x.argument(0);
         for (int i = 0; i < 2; i++) {
             x.argument(0);
