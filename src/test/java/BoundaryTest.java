@@ -92,9 +92,7 @@ public final class BoundaryTest {
             call(x, 1);
             x.two(op);
             x.define(0);
-            if (op != 4 + 1) {
-                check.due("Terms: op " + op + ", Y after a tired X", x.callsOf(0, 1, 2, 1), 0);
-            }
+            check.due("Terms: op " + op + ", Y after a tired X", x.callsOf(0, 1, 2, 1), 0);
             check.due("Terms: op " + op + ", tired in X", x.callsOf(0, 1, 2, 3), 59);
 
             call(x, 1);

@@ -51,11 +51,10 @@ public final class ModelTest {
         } else if (pick < 76) {
             int f = function();
             check.due(at + "define(" + f + ")", x.define(f), model.define(f));
-        } else if (pick < 78) {
-            if (below(2) == 0) {
-                x.discard();
-                model.emptyStack();
-            }
+        } else if (pick < 77) {
+            x.discard();
+            model.emptyStack();
+        } else if (pick < 79) {
             check.due(at + "depth()", x.depth(), model.stack.size());
         } else {
             runBoth(x, model, at);
