@@ -111,10 +111,10 @@ public final class FixedArguments {
             return TOO_FEW;
         }
         stacked -= 3;
-        int c = stack[stacked];
-        int x = stack[stacked + 1];
-        elsePlace[DRAFT + c] = x + 1;
-        jumpPlace[DRAFT + x] = made;
+        int c = at(stack, stacked);
+        int x = at(stack, stacked + 1);
+        put(elsePlace, DRAFT + c, x + 1);
+        put(jumpPlace, DRAFT + x, made);
         return pushTerm(CHOOSE, 0);
     }
 
@@ -167,7 +167,7 @@ public final class FixedArguments {
             return BAD_ARG;
         }
         valueOfRun(f, a, b);
-        return entered[g];
+        return at(entered, g);
     }
 
     public int sumOver(int f, int a, int b, int n) {
@@ -199,13 +199,25 @@ public final class FixedArguments {
         return f >= 0 && f < FUNCTIONS;
     }
 
+    // Every index but a loop's counter or a plain 0 is looked at here, so that no
+    // call can throw whatever the fields hold; calls alone never lead outside.
+    private int at(int[] array, int index) {
+        return index >= 0 && index < array.length ? array[index] : 0;
+    }
+
+    private void put(int[] array, int index, int value) {
+        if (index >= 0 && index < array.length) {
+            array[index] = value;
+        }
+    }
+
     private int pushTerm(int newKind, int newNumber) {
         int term = DRAFT + made;
-        kind[term] = newKind;
-        number[term] = newNumber;
-        elsePlace[term] = NOWHERE;
-        jumpPlace[term] = NOWHERE;
-        stack[stacked] = made;
+        put(kind, term, newKind);
+        put(number, term, newNumber);
+        put(elsePlace, term, NOWHERE);
+        put(jumpPlace, term, NOWHERE);
+        put(stack, stacked, made);
         stacked++;
         made++;
         return stacked;
@@ -213,14 +225,20 @@ public final class FixedArguments {
 
     // With one term on the stack, every term made is a part of it.
     private void copyDraftTo(int f) {
+        copyDraftRow(kind, f);
+        copyDraftRow(number, f);
+        copyDraftRow(elsePlace, f);
+        copyDraftRow(jumpPlace, f);
+        put(bodySize, f, made);
+    }
+
+    private void copyDraftRow(int[] terms, int f) {
         int row = f * MAX_TERMS;
-        for (int i = 0; i < made; i++) {
-            kind[row + i] = kind[DRAFT + i];
-            number[row + i] = number[DRAFT + i];
-            elsePlace[row + i] = elsePlace[DRAFT + i];
-            jumpPlace[row + i] = jumpPlace[DRAFT + i];
+        // All of the row: what stands behind the last term made is never read.
+        for (int i = 0; i < MAX_TERMS; i++) {
+            int copied = at(terms, DRAFT + i);
+            put(terms, row + i, copied);
         }
-        bodySize[f] = made;
     }
 
     private void emptyStack() {
@@ -233,7 +251,17 @@ public final class FixedArguments {
         startRun();
         enter(f, a, b);
         for (int step = 0; step < MAX_STEPS && open > 0 && !tired; step++) {
-            takeStep();
+            int g = at(openFunction, open - 1);
+            int place = at(openPlace, open - 1);
+            int term = g * MAX_TERMS + place;
+            int termKind = at(kind, term);
+            if (place >= at(bodySize, g)) {
+                leave();
+            } else if (termKind <= LAST_OP) {
+                workOutTwo(termKind);
+            } else {
+                workOutOther(term);
+            }
         }
         return tired ? 0 : values[0];
     }
@@ -253,27 +281,14 @@ public final class FixedArguments {
             tired = true;
             return;
         }
+        int enteredBefore = at(entered, g);
+        put(entered, g, enteredBefore + 1);
         enteredInAll++;
-        entered[g]++;
-        openFunction[open] = g;
-        openFirst[open] = a;
-        openSecond[open] = b;
-        openPlace[open] = 0;
+        put(openFunction, open, g);
+        put(openFirst, open, a);
+        put(openSecond, open, b);
+        put(openPlace, open, 0);
         open++;
-    }
-
-    private void takeStep() {
-        int current = open - 1;
-        int f = openFunction[current];
-        int place = openPlace[current];
-        int term = f * MAX_TERMS + place;
-        if (place >= bodySize[f]) {
-            leave();
-        } else if (kind[term] <= LAST_OP) {
-            workOutTwo(kind[term]);
-        } else {
-            workOutOther(term);
-        }
     }
 
     // The value of the body stays behind as the value of the caller's call term.
@@ -286,8 +301,8 @@ public final class FixedArguments {
 
     private void workOutTwo(int op) {
         valueCount -= 2;
-        int x = values[valueCount];
-        int y = values[valueCount + 1];
+        int x = at(values, valueCount);
+        int y = at(values, valueCount + 1);
         if (op >= CALL) {
             // The caller goes on only when the call is left.
             enter(op - CALL, x, y);
@@ -299,14 +314,16 @@ public final class FixedArguments {
     }
 
     private void workOutOther(int term) {
-        int current = open - 1;
-        // A choose does nothing: the value of its X or Y is on top already.
-        if (kind[term] == CONSTANT) {
-            pushValue(number[term]);
-        } else if (kind[term] == FIRST) {
-            pushValue(openFirst[current]);
-        } else if (kind[term] == SECOND) {
-            pushValue(openSecond[current]);
+        int termKind = at(kind, term);
+        int value = at(number, term);
+        if (termKind == FIRST) {
+            value = at(openFirst, open - 1);
+        } else if (termKind == SECOND) {
+            value = at(openSecond, open - 1);
+        }
+        // A choose pushes nothing: the value of its X or Y is on top already.
+        if (termKind != CHOOSE) {
+            pushValue(value);
         }
         goOn();
     }
@@ -326,24 +343,26 @@ public final class FixedArguments {
     }
 
     private void pushValue(int value) {
-        values[valueCount] = value;
+        put(values, valueCount, value);
         valueCount++;
     }
 
     // Moves the open call past the term whose value has just become known.
     private void goOn() {
-        int current = open - 1;
-        int place = openPlace[current];
-        int term = openFunction[current] * MAX_TERMS + place;
+        int g = at(openFunction, open - 1);
+        int place = at(openPlace, open - 1);
+        int term = g * MAX_TERMS + place;
+        int ifZero = at(elsePlace, term);
+        int jump = at(jumpPlace, term);
         int next = place + 1;
-        if (elsePlace[term] != NOWHERE) {
+        if (ifZero != NOWHERE) {
             valueCount--;
-            if (values[valueCount] == 0) {
-                next = elsePlace[term];
+            if (at(values, valueCount) == 0) {
+                next = ifZero;
             }
-        } else if (jumpPlace[term] != NOWHERE) {
-            next = jumpPlace[term];
+        } else if (jump != NOWHERE) {
+            next = jump;
         }
-        openPlace[current] = next;
+        put(openPlace, open - 1, next);
     }
 }

@@ -19,6 +19,7 @@ public final class BoundaryTest {
         aChosenZeroIsAValue();
         sixtyCallsOfAnyFunctions();
         sixtyCallsThatAreLeftSoon();
+        mostValuesThatWait();
         argumentsOfTheCallThatTires();
         aTiredRunEndsAtOnce();
         aRunStartsAfresh();
@@ -29,6 +30,7 @@ public final class BoundaryTest {
         argumentsUntilFull();
         madeSinceLastEmptied();
         answersOnTheWayToFull();
+        choosesOfTheHighestStack();
         defineNeedsExactlyOne();
         defineAnswersTheTermsMade();
         defineEmptiesAFullStack();
@@ -201,6 +203,39 @@ public final class BoundaryTest {
         check.due("Terms: 61 calls, those of 1", x.callsOf(0, 0, 0, 1), 49);
     }
 
+    // Terms: "if 60 calls were made already", each call inside the one before, and in each
+    // as many values waiting for it as fourteen terms allow.
+    private static void mostValuesThatWait() {
+        FixedArguments x = new FixedArguments();
+        // f0, f1, f2 = 1 + (2 + (3 + (4 + (5 + next(first, second))))).
+        for (int f = 0; f < 3; f++) {
+            pushOneTo(x, 5);
+            call(x, f + 1);
+            for (int i = 0; i < 5; i++) {
+                x.two(0);
+            }
+            x.define(f);
+        }
+        // f3 = first ? 1 + (2 + (3 + f0(first - 1, second))) : second.
+        x.argument(0);
+        pushOneTo(x, 3);
+        x.argument(0);
+        x.constant(1);
+        x.two(1);
+        x.argument(1);
+        x.two(4);
+        for (int i = 0; i < 3; i++) {
+            x.two(0);
+        }
+        x.argument(1);
+        x.choose();
+        check.due("Terms: f3 takes all fourteen terms", x.define(3), 14);
+        check.due("Terms: the calls where most values wait", x.calls(0, 14, 1000), 60);
+        check.due("Terms: most values wait", x.run(0, 14, 1000), 15 * 3 * 15 + 14 * 6 + 1000);
+        check.due("Terms: more would wait", x.ending(0, 15, 1000), FixedArguments.TIRED);
+        check.due("Terms: fewer wait after a tired run", x.run(0, 1, 7), 2 * 3 * 15 + 6 + 7);
+    }
+
     // Terms: "X, then Y is worked out; then, if 60 calls were made already in the run".
     private static void argumentsOfTheCallThatTires() {
         FixedArguments x = countDown();
@@ -303,7 +338,7 @@ public final class BoundaryTest {
             x.choose();
             x.define(p);
         } catch (RuntimeException | Error thrown) {
-            check.due("Terms: no call throws, but " + last + " threw " + thrown, 1, 0);
+            check.threw("Terms: " + last, thrown);
         }
     }
 
@@ -419,6 +454,41 @@ public final class BoundaryTest {
         check.due("4: two when full", x.two(7), FixedArguments.FULL);
         check.due("5: choose when full", x.choose(), FixedArguments.FULL);
         check.due("6: define when full", x.define(3), 14);
+    }
+
+    // Promise 5: "Takes C, X and Y off (Y the top)", from the highest stack that can become one term.
+    private static void choosesOfTheHighestStack() {
+        FixedArguments x = new FixedArguments();
+        // f0 = first ? 1 : second ? 2 : first ? 3 : second ? 4 : 5, where the third C is 0 if it is reached.
+        for (int i = 0; i < 4; i++) {
+            x.argument(i % 2);
+            x.constant(i + 1);
+        }
+        check.due("5: the highest stack", x.constant(5), 9);
+        for (int i = 1; i <= 4; i++) {
+            check.due("5: choose " + i + " of the highest stack", x.choose(), 9 - 2 * i);
+        }
+        check.due("6: the terms of four chooses", x.define(0), 13);
+        check.due("5: the outermost X", x.run(0, 1, 1), 1);
+        check.due("5: the second X", x.run(0, 0, 1), 2);
+        check.due("5: the innermost Y", x.run(0, 0, 0), 5);
+
+        // f1 = 0 ? 11 : 0 ? 12 : 0 ? 13 : first ? 14 : second.
+        for (int i = 0; i < 4; i++) {
+            if (i < 3) {
+                x.constant(0);
+            } else {
+                x.argument(0);
+            }
+            x.constant(11 + i);
+        }
+        x.argument(1);
+        for (int i = 0; i < 4; i++) {
+            x.choose();
+        }
+        x.define(1);
+        check.due("5: the innermost X", x.run(1, 1, 77), 14);
+        check.due("5: the innermost Y where C is 0", x.run(1, 0, 77), 77);
     }
 
     // Promise 6: "TOO_FEW if there is not exactly one."
@@ -669,6 +739,12 @@ public final class BoundaryTest {
         for (int i = 0; i < times; i++) {
             x.constant(0);
             x.two(4 + g);
+        }
+    }
+
+    private static void pushOneTo(FixedArguments x, int last) {
+        for (int c = 1; c <= last; c++) {
+            x.constant(c);
         }
     }
 

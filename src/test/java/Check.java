@@ -9,6 +9,11 @@ final class Check {
         }
     }
 
+    void threw(String what, Throwable thrown) {
+        wrong++;
+        System.out.println(what + " threw " + thrown);
+    }
+
     void end() {
         if (wrong != 0) {
             System.out.println(wrong + " answers are not as due");
